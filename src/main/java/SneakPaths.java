@@ -657,13 +657,10 @@ public final class SneakPaths {
                 return;
             }
             at++;
-            if (isDigit(token)) {
-                readDigitsBehind();
+            if (!isDigit(token)) {
+                return;
             }
-        }
-
-        /** A number of several digits is above 9 or has a 0 ahead: it can stand nowhere. */
-        private void readDigitsBehind() {
+            // A number of several digits is above 9 or has a 0 ahead: it can stand nowhere.
             for (int i = 0; i < MOST_LETTERS && isDigit(letterAt(at)); i++) {
                 at++;
                 token = WRONG;

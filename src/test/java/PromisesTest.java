@@ -126,6 +126,8 @@ public final class PromisesTest {
         fault("w1 1;", 3);
         fault("w0 1 2;", 5);
         fault("w0;", 2);
+        fault("w19 0;", 1);
+        fault("w91 0;", 1);
         fault("w01;", 1);
         fault("w0  12;", 4);
         fault("o0 1;", 4);
@@ -173,7 +175,7 @@ public final class PromisesTest {
     private void netAnew() {
         SneakPaths x = Checks.told(CHAIN);
         x.wishes(0, 7);
-        x.cures(0, 2, 0);
+        x.cures(0, 1, 3);
         x.sticks(1, 2);
         x.sees(0, 0, 1);
         x.keep(0);
@@ -185,6 +187,7 @@ public final class PromisesTest {
         due("does not stick", x.contact(1, 6), 0);
         due("nothing undone", x.count(7), 0);
         due("undo", x.undo(), STATE);
+        due("no switch of a cure", x.cures(0, 4, 0), STATE);
         due("nothing seen", x.count(5), 0);
         due("image 0 is gone", x.back(0), STATE);
         due("image 1 is gone", x.back(1), STATE);
@@ -351,6 +354,31 @@ public final class PromisesTest {
         }
         due("older ones are lost", x.undo(), STATE);
         due("wished now", x.load(0, 2), 3);
+        undoOfManySorts();
+    }
+
+    /** Twelve deeds, the sorts mixed: the first two are lost, ten come back one by one. */
+    private void undoOfManySorts() {
+        SneakPaths x = Checks.told(BRIDGE);
+        for (int i = 0; i < 4; i++) {
+            x.cures(i, 1, i);
+            x.sticks(4 - i, 1 + i % 2);
+            x.wishes(i % 2, 100 + i);
+        }
+        for (int i = 3; i >= 0; i--) {
+            due("undo the wish " + i, x.undo(), 3 * i);
+            due("wished behind it", x.load(i % 2, 2), i >= 2 ? 98 + i : i == 1 ? (S0 | S1) & S3 : (S0 | S1) & S2);
+            if (i > 0) {
+                due("undo the sticking " + i, x.undo(), 3 * i - 1);
+                due("it does not stick", x.contact(4 - i, 6), 0);
+                due("undo the cure " + i, x.undo(), 3 * i - 2);
+                due("it has none", x.contact(i, 4), 4);
+                due("none is the same", x.cures(i, 4, 0), STATE);
+            }
+        }
+        due("the oldest two are lost", x.undo(), STATE);
+        due("the oldest cure stays", x.contact(0, 5), 0);
+        due("the oldest sticking stays", x.contact(4, 6), 1);
     }
 
     // 11
@@ -430,6 +458,8 @@ public final class PromisesTest {
         due("one that sticks shut is parted like others", y.parting(0, 0), 0b0011);
         SneakPaths nine = Checks.told("w0 1;w0 1;w0 1;w0 1;w0 1;w0 1;w0 1;w0 1;w0 1;l1;");
         due("all nine", nine.parting(0, 3), 511);
+        nine.sticks(4, 1);
+        due("all but one that sticks open", nine.parting(0, 3), 511 - 16);
     }
 
     // 14
@@ -463,6 +493,18 @@ public final class PromisesTest {
         due("never to be fed: backward", one.enough(1), 30);
         one.wishes(0, ALL & ~S3);
         due("closed of switch 3", one.enough(1), 13);
+        one.wishes(0, S1 & ~S2);
+        one.cures(0, 0, 1);
+        due("a contact with a cure", one.enough(0), 0);
+        one.cures(0, 4, 0);
+        due("neither alone is enough", one.enough(0), 0);
+        SneakPaths row = Checks.told("n3;o0 1 0;w1 2;l2;");
+        row.wishes(0, S0 | S3);
+        due("it is missing in half of switch 3", row.load(0, 4), S3 & ~S0);
+        row.cures(0, 1, 3);
+        // Missing now: all of S0 | S3 but S0 & ~S3; another closed of switch 3, or forward, or open of 0.
+        due("no more may be missing", row.enough(0), 3);
+        due("the first of them", row.enough(1), 100);
     }
 
     // 15
@@ -568,6 +610,11 @@ public final class PromisesTest {
         x.sees(0, 0, 0);
         due("others as they are now: open", x.unseen(1), 7);
         due("others as they are now: shut", x.unseen(2), 4);
+        SneakPaths two = Checks.told("w0 1;w0 2;l1;l2;");
+        two.sees(1, 0, 0);
+        due("seen of load 1", two.unseen(1), 2);
+        two.sees(0, 0, 1);
+        due("seen of both loads", two.unseen(1), 2);
     }
 
     // 20, 21
@@ -624,6 +671,9 @@ public final class PromisesTest {
         x.wishes(1, 0);
         due("both sneak", x.count(3), 2);
         due("one is missing", x.count(4), 1);
+        x.wishes(1, ALL);
+        due("one sneaks", x.count(3), 1);
+        due("both are missing", x.count(4), 2);
         due("count(8)", x.count(8), BAD);
         due("count(-1)", x.count(-1), BAD);
     }
