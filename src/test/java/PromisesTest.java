@@ -377,6 +377,15 @@ public final class PromisesTest {
             }
         }
         due("the oldest two are lost", x.undo(), STATE);
+        SneakPaths y = Checks.told(CHAIN);
+        for (int i = 0; i < 14; i++) {
+            y.cures(0, i % 2, i % 4);
+        }
+        for (int i = 12; i >= 3; i--) {
+            y.undo();
+            due("the cure " + i, y.contact(0, 4), i % 2);
+            due("the switch of the cure " + i, y.contact(0, 5), i % 4);
+        }
         due("the oldest cure stays", x.contact(0, 5), 0);
         due("the oldest sticking stays", x.contact(4, 6), 1);
     }
