@@ -1,14 +1,43 @@
+import java.io.IOException;
+import java.io.UncheckedIOException;
+import java.nio.charset.StandardCharsets;
+import java.nio.file.Files;
+import java.nio.file.Path;
+
 /** Counts answers that are not as due, and prints them. */
 final class Checks {
+    private static final Path DOCUMENT = Path.of("../shared/DOC.md");
+
     private int wrong;
     private int all;
+    private int sentences;
+    private String sentence = "";
+    private String document = "";
+
+    /** The document's words that the next checks hold to: they must stand there. */
+    void sentence(String words) {
+        sentence = "\"" + words + "\": ";
+        sentences++;
+        isTrue("the document says so", document().contains(words));
+    }
+
+    private String document() {
+        if (document.isEmpty()) {
+            try {
+                document = Files.readString(DOCUMENT, StandardCharsets.UTF_8).replaceAll("\\s+", " ");
+            } catch (IOException e) {
+                throw new UncheckedIOException(e);
+            }
+        }
+        return document;
+    }
 
     void due(String what, long got, long want) {
         all++;
         if (got != want) {
             wrong++;
             if (wrong <= 50) {
-                System.out.println(what + ": answered " + got + ", due is " + want);
+                System.out.println(sentence + what + ": answered " + got + ", due is " + want);
             }
         }
     }
@@ -18,7 +47,8 @@ final class Checks {
     }
 
     void end(String name) {
-        System.out.println(name + ": " + all + " checks, " + wrong + " wrong");
+        String held = sentences == 0 ? "" : sentences + " sentences, ";
+        System.out.println(name + ": " + held + all + " checks, " + wrong + " wrong");
         if (wrong != 0) {
             System.exit(1);
         }
