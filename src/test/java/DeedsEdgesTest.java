@@ -90,6 +90,8 @@ public final class DeedsEdgesTest {
     }
 
     private void curesOfTheLastContact() {
+        checks.sentence("a CURE: none (at first)");
+        due("at first", Checks.told(NINE).contact(8, 4), 4);
         checks.sentence("CURED: a CONTACT has another CURE (4: none).");
         SneakPaths x = Checks.told(NINE);
         due("the ninth", x.cures(8, 1, 3), 4);
@@ -115,6 +117,7 @@ public final class DeedsEdgesTest {
             was = how;
         }
         due("known", x.count(7), 6);
+        checks.sentence("STICKING: a CONTACT sticks (0 not, 1 open, 2 shut).");
         due("how too small", x.sticks(8, -1), BAD);
         due("how too large", x.sticks(8, 3), BAD);
         due("contact too small", x.sticks(-1, 1), BAD);
@@ -175,6 +178,8 @@ public final class DeedsEdgesTest {
             sticksUndone(deeds);
         }
         wishesUndone(25);
+        curesUndone();
+        mixedDeedsUndone();
     }
 
     private void wishesUndone(int deeds) {
@@ -207,6 +212,45 @@ public final class DeedsEdgesTest {
         for (int i = 0; i < deeds - 10; i++) {
             due("what is lost stays", x.contact(i, 6), 1);
         }
+    }
+
+    private void curesUndone() {
+        SneakPaths x = Checks.told(NINE);
+        for (int i = 0; i < 13; i++) {
+            x.cures(8, i % 2, i % 4);
+        }
+        for (int i = 11; i >= 2; i--) {
+            x.undo();
+            due("the cure " + i, x.contact(8, 4), i % 2);
+            due("its switch", x.contact(8, 5), i % 4);
+        }
+        due("no more cures", x.undo(), STATE);
+    }
+
+    /** Wish, cure, sticking in turn, four of each: a wish and a cure are lost, then a sticking is first. */
+    private void mixedDeedsUndone() {
+        SneakPaths x = Checks.told(NINE);
+        for (int i = 0; i < 4; i++) {
+            x.wishes(0, i);
+            x.cures(i, 1, i);
+            x.sticks(i, 2);
+        }
+        for (int i = 3; i >= 0; i--) {
+            x.undo();
+            due("sticking " + i + " undone", x.contact(i, 6), 0);
+            if (i == 0) {
+                break;
+            }
+            due("cure " + i + " is still there", x.contact(i, 5), i);
+            x.undo();
+            due("cure " + i + " undone", x.contact(i, 4), 4);
+            due("wish " + i + " is still there", x.load(0, 2), i);
+            due("undo of wish " + i, x.undo(), 3 * i - 2);
+            due("wish " + i + " undone", x.load(0, 2), i - 1);
+        }
+        due("no more deeds", x.undo(), STATE);
+        due("the oldest cure is lost and stays", x.contact(0, 4), 1);
+        due("the oldest wish is lost and stays", x.load(0, 2), 0);
     }
 
     private void refusedAreNotKnown() {

@@ -10,6 +10,7 @@ public final class NetEdgesTest {
     public static void main(String[] args) {
         NetEdgesTest t = new NetEdgesTest();
         t.newObject();
+        t.numberedAsTold();
         t.contactsAsked();
         t.cureAsked();
         t.loadsAsked();
@@ -21,6 +22,7 @@ public final class NetEdgesTest {
         t.fed();
         t.wishedSneaksMissing();
         t.counts();
+        t.lastCall();
         t.checks.end("NetEdgesTest");
     }
 
@@ -61,6 +63,27 @@ public final class NetEdgesTest {
         due("clear", x.clear(), 0);
         due("net", x.net(), 0);
         due("gone behind net", x.back(0), STATE);
+    }
+
+    private void numberedAsTold() {
+        checks.sentence("o U V S, c U V S, w U V, d U V (the next CONTACT, OPEN, CLOSED, WIRE, DIODE) ; l U (the next LOAD)");
+        SneakPaths x = Checks.told("n5;l4;d0 1;c1 2 3;l2;w2 3;o3 4 1;l1;");
+        int[] kinds = {3, 1, 2, 0};
+        int[] nodes = {4, 2, 1};
+        for (int c = 0; c < 4; c++) {
+            due("kind of contact " + c, x.contact(c, 0), kinds[c]);
+            due("first node of contact " + c, x.contact(c, 1), c);
+            due("second node of contact " + c, x.contact(c, 2), c + 1);
+        }
+        for (int l = 0; l < 3; l++) {
+            due("node of load " + l, x.load(l, 0), nodes[l]);
+        }
+        checks.sentence("CONTACTS 0, 1, .. (9 at most), between two unlike NODES");
+        due("no fifth", x.contact(4, 0), BAD);
+        due("nine", Checks.told("w0 1;".repeat(9)).contact(8, 0), 2);
+        checks.sentence("LOADS 0, 1, .. (3 at most), each at a NODE that is not 0, no two at one.");
+        due("no fourth", x.load(3, 0), BAD);
+        due("the third", x.load(2, 0), 1);
     }
 
     private void contactsAsked() {
@@ -136,6 +159,10 @@ public final class NetEdgesTest {
     }
 
     private void switchIsBit() {
+        checks.sentence("0 OPEN (shut when its SWITCH is 1), 1 CLOSED (shut when it is 0)");
+        SneakPaths both = Checks.told("o0 1 2;c0 2 2;l1;l2;");
+        due("open", both.load(0, 1), 0xF0F0);
+        due("closed", both.load(1, 1), 0x0F0F);
         checks.sentence("STATES 0 .. 15 (switch k is bit k)");
         for (int k = 0; k < 4; k++) {
             due("open of " + k, Checks.told("o0 1 " + k + ";l1;").load(0, 1), ON[k]);
@@ -223,6 +250,9 @@ public final class NetEdgesTest {
     }
 
     private void fed() {
+        checks.sentence("0 is LIVE.");
+        due("from 0", Checks.told("w0 2;l2;").load(0, 1), ALL);
+        due("from no other", Checks.told("w1 2;l2;").load(0, 1), 0);
         checks.sentence("FED: a LOAD in a STATE, if ways of CONTACTS that are shut lead from 0 to its NODE.");
         due("no contacts", Checks.told("n2;l1;").load(0, 1), 0);
         due("none from 0", Checks.told("n4;w1 2;w2 3;l3;").load(0, 1), 0);
@@ -304,5 +334,14 @@ public final class NetEdgesTest {
         for (int wild : WILD) {
             due("count(" + wild + ")", x.count(wild), BAD);
         }
+    }
+
+    private void lastCall() {
+        checks.sentence("An object is used for at most 512 calls after it has been made");
+        SneakPaths x = Checks.told("w0 1;l1;");
+        for (int call = 10; call <= 511; call++) {
+            due("call " + call, x.wishes(0, call), call == 10 ? ALL : call - 1);
+        }
+        due("the 512th", x.load(0, 2), 511);
     }
 }

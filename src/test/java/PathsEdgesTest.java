@@ -89,6 +89,10 @@ public final class PathsEdgesTest {
         checks.sentence("PATHS in order: by the first CONTACT, the lower first, then the second");
         pathsDue(Checks.told("n4;w0 1;w1 2;w2 3;w0 3;w1 3;l3;"), 0, 0b00111, 0b10001, 0b01000);
         pathsDue(Checks.told("n4;w2 3;w0 2;w0 1;w1 3;w1 2;l3;"), 0, 0b00011, 0b11010, 0b01100, 0b10101);
+        checks.sentence("(one that is the beginning of another one can not be)");
+        pathsDue(Checks.told("w0 1;w1 2;w2 0;l1;"), 0, 0b001, 0b110);
+        pathsDue(Checks.told("w0 1;w1 2;w1 2;l1;l2;"), 0, 0b001);
+        checks.sentence("the lower first, then the second ..;");
         int[] bits = new int[27];
         for (int k = 0; k < 27; k++) {
             bits[k] = 1 << k / 9 | 8 << k / 3 % 3 | 64 << k % 3;
@@ -229,6 +233,11 @@ public final class PathsEdgesTest {
         enoughDue(x, 0, NONE);
         x.sticks(0, 1);
         enoughDue(x, 1, 130);
+        SneakPaths three = Checks.told("n4;w0 1;w0 2;w0 3;l1;l2;l3;");
+        three.wishes(2, 0);
+        enoughDue(three, 1, 230);
+        three.wishes(1, 0);
+        enoughDue(three, 0, NONE);
         // One state in which it sneaks is too much, if no one cure takes it alone.
         SneakPaths y = Checks.told("w0 1;l1;");
         y.wishes(0, 0x7FFF);
@@ -248,6 +257,12 @@ public final class PathsEdgesTest {
         x.wishes(0, 0);
         // Both are unwished now: contact 0 backward parts both.
         enoughDue(x, 1, 30);
+        SneakPaths three = Checks.told("n4;w0 1;w1 2;w2 3;l1;l2;l3;");
+        three.wishes(1, 0x0F0F);
+        // Closed of 2 for load 1 would leave load 2 missing, which is not now.
+        enoughDue(three, 0, NONE);
+        three.sticks(2, 1);
+        enoughDue(three, 1, 112);
         SneakPaths y = Checks.told("o0 1 0;w0 2;l1;l2;");
         y.wishes(0, ALL);
         y.wishes(1, S1);
@@ -325,6 +340,12 @@ public final class PathsEdgesTest {
             due("from " + f[0] + " to " + f[1], x.flash(0, f[0], f[1]), 0);
         }
         checks.sentence("whether in some STATE between it is FED, though it is in neither of both");
+        SneakPaths least = Checks.told("n5;c0 1 0;c1 2 1;c2 3 2;c3 4 3;l4;");
+        due("state 0 between", least.flash(0, 1, 2), 1);
+        due("state 0 not between", least.flash(0, 5, 6), 0);
+        SneakPaths greatest = Checks.told("n5;o0 1 0;o1 2 1;o2 3 2;o3 4 3;l4;");
+        due("state 15 between", greatest.flash(0, 7, 11), 1);
+        due("state 15 not between", greatest.flash(0, 3, 5), 0);
         due("fed at the end", x.flash(0, 0, 6), 0);
         due("fed at the start", x.flash(0, 6, 0), 0);
         due("fed at both", x.flash(0, 6, 6), 0);

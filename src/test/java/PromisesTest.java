@@ -690,17 +690,18 @@ public final class PromisesTest {
     /** No argument whatever makes a call throw, and a refused one changes nothing. */
     private void wildArguments() {
         int[] wild = {Integer.MIN_VALUE, -65536, -10, -9, -2, -1, 7, 9, 16, 17, 31, 32, 100, 65536, Integer.MAX_VALUE};
-        SneakPaths[] objects = {new SneakPaths(), Checks.told(BRIDGE), Checks.told("n2;l1;"), Checks.told("w0 1;")};
-        for (SneakPaths x : objects) {
+        String[] nets = {"", BRIDGE, "n2;l1;", "w0 1;"};
+        for (String net : nets) {
             for (int a : wild) {
+                SneakPaths x = Checks.told(net);
                 for (int b : wild) {
                     callsThatChangeNothing(x, a, b);
                 }
+                due("nothing was done", x.count(7), 0);
+                due("nothing was seen", x.count(5), 0);
+                due("nothing was typed", x.count(6), 0);
+                due("no image was kept", x.back(0) + x.back(1), 2 * STATE);
             }
-            due("nothing was done", x.count(7), 0);
-            due("nothing was seen", x.count(5), 0);
-            due("nothing was typed", x.count(6), 0);
-            due("no image was kept", x.back(0) + x.back(1), 2 * STATE);
         }
     }
 

@@ -12,6 +12,7 @@ public final class SeenEdgesTest {
         t.sees();
         t.forget();
         t.unseen();
+        t.justOne();
         t.eachSightTells();
         t.asThingsAreNow();
         t.unseenAsked();
@@ -31,7 +32,6 @@ public final class SeenEdgesTest {
         due("a seventh", x.sees(0, 7, 1), FULL);
         due("again", x.sees(0, 1, 1), FULL);
         due("six there are", x.count(5), 6);
-        due("the first of them was not lost", x.unseen(1), 0);
         x.forget();
         due("room again", x.sees(0, 1, 1), 1);
     }
@@ -110,6 +110,18 @@ public final class SeenEdgesTest {
         SneakPaths diode = Checks.told("d1 0;l1;");
         diode.sees(0, 0, 1);
         due("stuck shut a diode leads back", diode.unseen(2), 1);
+    }
+
+    private void justOne() {
+        checks.sentence("one unknown CONTACT sticking open, or shut");
+        SneakPaths row = Checks.told("o0 1 0;o1 2 1;l2;");
+        row.sees(0, 0, 1);
+        due("both would have to stick shut", row.unseen(2), 0);
+        SneakPaths two = Checks.told("w0 1;w0 1;l1;");
+        two.sees(0, 0, 0);
+        due("both would have to stick open", two.unseen(1), 0);
+        two.sticks(0, 1);
+        due("one does: then the other", two.unseen(1), 2);
     }
 
     /** Six sights that agree but for one, wherever that is. */
